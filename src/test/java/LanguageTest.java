@@ -1,0 +1,330 @@
+/** Section 1 of the document, with promises 2 to 5: the tape, tokens, grammar, depth and the five errors. */
+public final class LanguageTest {
+    private static final String BASE = "ward a cap 1; project p cost 5 in a grows 0; voter v likes p; ";
+
+    public static void main(String[] args) {
+        feedAndTrim();
+        tokens();
+        grammar();
+        depth();
+        limits();
+        names();
+        ranges();
+        order();
+        stays();
+        Due.end();
+    }
+
+    private static void wrong(String list, int error, int at) {
+        BudgetJury jury = new BudgetJury();
+        Due.same("teach of " + list, Due.teach(jury, list), error);
+        Due.same("errorAt of " + list, jury.errorAt(), at);
+        Due.same("the tape behind " + list, jury.count(11), 0);
+    }
+
+    private static void right(String list) {
+        wrong(list, 0, -1);
+    }
+
+    /** Behind BASE, at a position counted from there. */
+    private static void wrongBan(String test, int error, int at) {
+        wrong(BASE + "ban p when " + test + ";", error, BASE.length() + 11 + at);
+    }
+
+    private static void rightBan(String test) {
+        right(BASE + "ban p when " + test + ";");
+    }
+
+    private static String times(String text, int n) {
+        StringBuilder all = new StringBuilder();
+        for (int i = 0; i < n; i++) {
+            all.append(text);
+        }
+        return all.toString();
+    }
+
+    private static void feedAndTrim() {
+        BudgetJury jury = new BudgetJury();
+        Due.same("errorAt at first", jury.errorAt(), -1);
+        Due.thrown("trim(-1)", IllegalArgumentException.class, () -> jury.trim(-1));
+        Due.thrown("trim(1) of nothing", IllegalArgumentException.class, () -> jury.trim(1));
+        Due.same("trim(0)", jury.trim(0), 0);
+        // "ward abc cap 7;     " with the highest byte first
+        Due.same("feed", jury.feed(0x77617264, 0x20616263, 0x20636170, 0x20373b20, 0x20202020), 20);
+        Due.same("count(11)", jury.count(11), 20);
+        Due.same("teach", jury.teach(), 0);
+        Due.same("ward(0, 0)", jury.ward(0, 0), 7);
+        Due.same("the tape is empty", jury.count(11), 0);
+        for (int i = 1; i <= 100; i++) {
+            Due.same("feed " + i, jury.feed(-1, 0, 0, 0, 0x80), 20 * i);
+        }
+        Due.thrown("feed into a full tape", IllegalStateException.class, () -> jury.feed(0, 0, 0, 0, 0));
+        Due.same("the full tape", jury.count(11), 2000);
+        Due.same("trim(1981)", jury.trim(1981), 1981);
+        Due.thrown("feed with 1981", IllegalStateException.class, () -> jury.feed(0, 0, 0, 0, 0));
+        Due.thrown("trim(1982)", IllegalArgumentException.class, () -> jury.trim(1982));
+        Due.thrown("trim(least)", IllegalArgumentException.class, () -> jury.trim(Integer.MIN_VALUE));
+        Due.same("trim(1980)", jury.trim(1980), 1980);
+        Due.same("feed with 1980", jury.feed(0, 0, 0, 0, 0), 2000);
+        Due.same("teach of bad bytes", jury.teach(), 1);
+        Due.same("errorAt of bad bytes", jury.errorAt(), 0);
+        Due.same("the tape is empty again", jury.count(11), 0);
+        Due.same("teach of nothing", jury.teach(), 0);
+        Due.same("errorAt of nothing", jury.errorAt(), -1);
+    }
+
+    private static void tokens() {
+        right("");
+        right(" \n ");
+        right("\n ward\na\ncap\n3\n;\n");
+        right("ward a cap 1;ward b cap 2;");
+        // A number ends where a letter begins; nothing has to stand between them.
+        right("ward a cap 1;project p cost 5in a grows 0;");
+        right("ward a cap 000012;");
+        wrong("ward a cap 0000012;", 1, 11);
+        wrong("ward a cap 1234567;", 1, 11);
+        right("ward abcdefghij cap 1;");
+        right("ward a234567890 cap 1;");
+        wrong("ward abcdefghijk cap 1;", 1, 5);
+        wrong("ward a cap 1;abcdefghijkl", 1, 13);
+        wrong("wardx a cap 1;", 1, 0);
+        wrong("warda cap 1;", 1, 0);
+        wrong("ward a cap1;", 1, 7);
+        wrong("ward A cap 1;", 1, 5);
+        wrong("ward a\tcap 1;", 1, 6);
+        wrong("ward a\rcap 1;", 1, 6);
+        wrong("ward a_ cap 1;", 1, 6);
+        wrong("ward a\u00e4 cap 1;", 1, 6);
+        wrong("ward a cap 1; \u00ff", 1, 14);
+        wrong("ward a cap 1; \u0000", 1, 14);
+        wrong("ward 1a cap 1;", 1, 5);
+        wrong("ward a cap -1;", 1, 11);
+        for (String sign : new String[] {"<", ">", "=", "<=", ">="}) {
+            rightBan("1" + sign + "2");
+            rightBan("1 " + sign + " - 2");
+        }
+        wrongBan("1 < = 2", 1, 4);
+        wrongBan("1 =< 2", 1, 3);
+        wrongBan("1 => 2", 1, 3);
+        wrongBan("1 == 2", 1, 3);
+        wrongBan("1 <> 2", 1, 3);
+        // Two names that are to be told apart by their length alone.
+        right("ward a cap 1; ward a0 cap 1; ward a00 cap 1; ward aa cap 1;");
+        right("ward wards cap 1; ward caps cap 1; ward i cap 1; ward inn cap 1;");
+    }
+
+    private static void grammar() {
+        wrong("ward", 1, 4);
+        wrong("ward ", 1, 5);
+        wrong("ward a cap 1", 1, 12);
+        wrong("ward a cap 1 \n", 1, 14);
+        wrong("ward a cap 1;;", 1, 13);
+        wrong(";", 1, 0);
+        wrong("ward a cap b;", 1, 11);
+        wrong("ward a 1;", 1, 7);
+        wrong("cap a ward 1;", 1, 0);
+        for (String keyword : ("ward cap project cost in grows voter likes budget ban when year pot purse fans built "
+            + "pleased not and or min max").split(" ")) {
+            wrong("ward " + keyword + " cap 1;", 1, 5);
+            wrong("voter " + keyword + ";", 1, 6);
+        }
+        wrong("ward a cap 1; project p cost 5;", 1, 30);
+        wrong("ward a cap 1; project p in a cost 5 grows 1;", 1, 24);
+        wrong("ward a cap 1; project p cost 5 in a;", 1, 35);
+        right("voter v;");
+        wrong("voter v likes;", 1, 13);
+        wrong("voter v likes 1;", 1, 14);
+        wrong(BASE + "voter w likes p 1;", 1, BASE.length() + 16);
+        wrong(BASE + "voter w likes p, p;", 1, BASE.length() + 15);
+        wrong("budget;", 1, 6);
+        right("budget 1; budget 2;");
+        wrong(BASE + "ban p;", 1, BASE.length() + 5);
+        wrong(BASE + "ban when 1 < 2;", 1, BASE.length() + 4);
+        rightBan("built p and not built p or likes v p");
+        rightBan("[built p or built p] and [built p]");
+        rightBan("not [built p and built p]");
+        rightBan("year + pot - cost p * fans p / purse v + pleased v = -(1) - -2");
+        rightBan("min(1, 2) < max(min(year, pot), 3 + 4)");
+        rightBan("(1) < ((2) * 3)");
+        wrongBan("", 1, 0);
+        wrongBan("1", 1, 1);
+        wrongBan("1 + 2", 1, 5);
+        wrongBan("1 < 2 < 3", 1, 6);
+        wrongBan("(1 < 2)", 1, 3);
+        wrongBan("(built p)", 1, 1);
+        wrongBan("[1] < 2", 1, 2);
+        wrongBan("[1 < 2", 1, 6);
+        wrongBan("[1 < 2)", 1, 6);
+        wrongBan("(1 + 2 < 3", 1, 7);
+        wrongBan("built 1", 1, 6);
+        wrongBan("built p p", 1, 8);
+        wrongBan("likes v", 1, 7);
+        wrongBan("cost < 1", 1, 5);
+        wrongBan("purse 1 < 1", 1, 6);
+        wrongBan("p < 1", 1, 0);
+        wrongBan("1 < 2 and", 1, 9);
+        wrongBan("1 < 2 or", 1, 8);
+        wrongBan("and 1 < 2", 1, 0);
+        wrongBan("1 not < 2", 1, 2);
+        wrongBan("1 < not 2", 1, 4);
+        wrongBan("1 + * 2 < 3", 1, 4);
+        wrongBan("+1 < 3", 1, 0);
+        wrongBan("min 1, 2 < 3", 1, 4);
+        wrongBan("min(1) < 3", 1, 5);
+        wrongBan("min(1, 2, 3) < 3", 1, 8);
+        wrongBan("max(1, ) < 3", 1, 7);
+        wrongBan("year 1 < 3", 1, 5);
+    }
+
+    private static void depth() {
+        rightBan(times("not ", 8) + "built p");
+        wrongBan(times("not ", 9) + "built p", 1, 32);
+        rightBan(times("[", 8) + "built p" + times("]", 8));
+        wrongBan(times("[", 9) + "built p" + times("]", 9), 1, 8);
+        rightBan(times("(", 8) + "1" + times(")", 8) + " < 2");
+        wrongBan(times("(", 9) + "1" + times(")", 9) + " < 2", 1, 8);
+        rightBan(times("-", 8) + "1 < 2");
+        wrongBan(times("-", 9) + "1 < 2", 1, 8);
+        rightBan("1 < " + times("min(1,", 8) + "1" + times(")", 8));
+        // The ( behind the min is the wrong one, not the min.
+        wrongBan("1 < " + times("min(1,", 9) + "1" + times(")", 9), 1, 4 + 8 * 6 + 3);
+        rightBan("not [not [-(-(1)) + min(-1, max(2, 3)) < 2]]");
+        rightBan("not [not [-(-(1)) + min(-1, max(2, -(3))) < 2]]");
+        wrongBan("not [not [-(-(1)) + min(-1, max(2, -(-3))) < 2]]", 1, 37);
+        wrongBan("not [not [1 < 2 and -(-(-(2))) < 2]]", 1, 24);
+        // Behind what was turned, and behind a closing sign, the depth is as before.
+        rightBan(times("-", 8) + "1 - " + times("-", 8) + "1 * " + times("-", 8) + "1 < " + times("(", 8) + "1" + times(")", 8));
+        rightBan(times("not ", 8) + "built p and " + times("not ", 8) + "built p or " + times("[", 8) + "built p" + times("]", 8));
+        wrongBan(times("not ", 8) + "-1 < 2", 1, 32);
+        rightBan(times("not ", 8) + "1 - 1 < 2");
+        wrongBan(times("not ", 7) + "(-1) < 2", 1, 29);
+        // Too deep is error 1, ahead of a name that nobody told.
+        wrong("ban x when " + times("[", 9), 1, 19);
+    }
+
+    private static void limits() {
+        // Two lines of 5 tokens and 130 of 3 are 400.
+        String full = "ward a cap 1;ward b cap 1;" + times("budget 1;", 130);
+        right(full);
+        right(full + " \n ");
+        wrong(full + " budget 1;", 1, full.length() + 1);
+        wrong(full + " ;", 1, full.length() + 1);
+        wrong(full + " ?", 1, full.length() + 1);
+        wrong(times("budget 1;", 133) + " budget", 1, 133 * 9 + 7);
+        wrong(times("budget 1;", 133) + " budget 7", 1, 133 * 9 + 8);
+        wrong(times("budget 1;", 133) + " budget 7 8", 1, 133 * 9 + 8);
+        right(BASE + "ban p when 1" + times("+1", 187) + "<2;");
+        wrongBan("1" + times("+1", 188) + "<2", 1, 378);
+        wrongBan("1" + times("+1", 250) + "<2", 1, 378);
+        // It is told ahead of any other error but error 1.
+        wrong("ward a cap 99;ward a cap 1;" + times("budget 1;", 130) + "budget 1;", 1, 27 + 130 * 9);
+    }
+
+    private static void names() {
+        wrong("ward a cap 1; ward a cap 2;", 2, 19);
+        wrong(BASE + "project p cost 5 in a grows 0;", 2, BASE.length() + 8);
+        wrong(BASE + "voter v;", 2, BASE.length() + 6);
+        // The same name for three sorts is right.
+        right("ward a cap 1; project a cost 1 in a grows 0; voter a likes a; ban a when likes a a and purse a < cost a;");
+        wrong("project p cost 5 in a grows 0; ward a cap 1;", 3, 20);
+        wrong(BASE + "project q cost 5 in p grows 0;", 3, BASE.length() + 20);
+        wrong(BASE + "project q cost 5 in v grows 0;", 3, BASE.length() + 20);
+        wrong("voter v likes p; ward a cap 1; project p cost 5 in a grows 0;", 3, 14);
+        wrong(BASE + "voter w likes p q;", 3, BASE.length() + 16);
+        wrong(BASE + "voter w likes v;", 3, BASE.length() + 14);
+        wrong(BASE + "ban q when 1 < 2;", 3, BASE.length() + 4);
+        wrong(BASE + "ban v when 1 < 2;", 3, BASE.length() + 4);
+        wrong("ban a when 1 < 2;", 3, 4);
+        wrongBan("built v", 3, 6);
+        wrongBan("built a", 3, 6);
+        wrongBan("likes p p", 3, 6);
+        wrongBan("likes v v", 3, 8);
+        wrongBan("likes p v", 3, 6);
+        wrongBan("cost v < 1", 3, 5);
+        wrongBan("fans v < 1", 3, 5);
+        wrongBan("purse p < 1", 3, 6);
+        wrongBan("pleased p < 1", 3, 8);
+        wrongBan("1 < purse q", 3, 10);
+        right("ward a cap 1; ward b cap 1; ward c cap 1; ward d cap 1;");
+        wrong("ward a cap 1; ward b cap 1; ward c cap 1; ward d cap 1; ward e cap 1;", 4, 61);
+        // Of errors at one token the one with the smallest number.
+        wrong("ward a cap 1; ward b cap 1; ward c cap 1; ward d cap 1; ward d cap 1;", 2, 61);
+        StringBuilder list = new StringBuilder("ward a cap 1;");
+        StringBuilder voters = new StringBuilder();
+        StringBuilder bans = new StringBuilder("ward a cap 1; project p cost 1 in a grows 0;");
+        for (int i = 0; i < 12; i++) {
+            list.append("project p").append(i).append(" cost 1 in a grows 0;");
+            voters.append("voter v").append(i).append(';');
+            bans.append("ban p when 1<").append(i).append(';');
+        }
+        right(list.toString());
+        wrong(list + "project x cost 1 in a grows 0;", 4, list.length() + 8);
+        wrong(list + "project p0 cost 1 in a grows 0;", 2, list.length() + 8);
+        right(voters.toString());
+        wrong(voters + "voter x;", 4, voters.length() + 6);
+        wrong(voters + "voter v11;", 2, voters.length() + 6);
+        right(bans.toString());
+        wrong(bans + "ban p when 1<2;", 4, bans.length());
+        // The word ban is ahead of the name behind it.
+        wrong(bans + "ban x when 1<2;", 4, bans.length());
+    }
+
+    private static void ranges() {
+        right("ward a cap 0; ward b cap 12;");
+        wrong("ward a cap 13;", 5, 11);
+        wrong("ward a cap 999999;", 5, 11);
+        String ward = "ward a cap 1;";
+        right(ward + "project p cost 1 in a grows 0; project q cost 999 in a grows 50;");
+        wrong(ward + "project p cost 0 in a grows 0;", 5, 28);
+        wrong(ward + "project p cost 1000 in a grows 0;", 5, 28);
+        wrong(ward + "project p cost 1 in a grows 51;", 5, 41);
+        right("budget 0; budget 9999;");
+        wrong("budget 10000;", 5, 7);
+        wrong("budget 1; budget 10000; budget 2;", 5, 17);
+        wrong(BASE + "voter w likes p p;", 5, BASE.length() + 16);
+        // The same project in two lines is right.
+        right(BASE + "voter w likes p; voter x likes p;");
+        // Numbers of tests have no range of their own.
+        rightBan("999999 < 0");
+    }
+
+    private static void order() {
+        // Error 1 at the end is told ahead of all others.
+        wrong("ward a cap 99; ward a cap 1; ban x when 1 < 2", 1, 45);
+        // Of the others the leftmost one.
+        wrong("ward a cap 99; ward a cap 1;", 5, 11);
+        wrong("ward a cap 1; ward a cap 99;", 2, 19);
+        wrong("ward a cap 1; project p cost 0 in b grows 99;", 5, 29);
+        wrong("ward a cap 1; project p cost 1 in b grows 99;", 3, 34);
+        wrong(BASE + "voter v likes q;", 2, BASE.length() + 6);
+        wrong(BASE + "voter w likes q p p;", 3, BASE.length() + 14);
+        wrong(BASE + "voter w likes p p q;", 5, BASE.length() + 16);
+        wrong(BASE + "ban p when built x or likes y z;", 3, BASE.length() + 17);
+        wrong(BASE + "ban p when likes y z;", 3, BASE.length() + 17);
+    }
+
+    private static void stays() {
+        BudgetJury jury = Due.taught(BASE + "budget 40; ban p when year > 9;");
+        jury.pass(3);
+        jury.give(0, 7);
+        long before = jury.digest();
+        Due.same("a wrong list", Due.teach(jury, "ward x cap 1; ward y cap 3; project q cost 1 in x grows 0; voter x likes p;"), 3);
+        Due.same("its position", jury.errorAt(), 73);
+        Due.same("all stays", jury.digest(), before);
+        Due.same("another wrong list", Due.teach(jury, "budget 3; budget"), 1);
+        Due.same("its position", jury.errorAt(), 16);
+        Due.same("all stays", jury.digest(), before);
+        Due.same("the year", jury.count(0), 3);
+        Due.same("a right list", Due.teach(jury, "ward x cap 2; ward y cap 3; project q cost 9 in y grows 4; voter z;"), 0);
+        Due.same("its position", jury.errorAt(), -1);
+        Due.same("the year stays", jury.count(0), 3);
+        int[] all = {3, 2, 1, 1, 0, 100, 0, 0, 0, 0, 0, 0};
+        for (int what = 0; what < all.length; what++) {
+            Due.same("count(" + what + ") of the new list", jury.count(what), all[what]);
+        }
+        Due.same("the ward of q", jury.project(0, 1), 1);
+        Due.same("q is open", jury.project(0, 4), -1);
+        Due.same("what z paid", jury.voter(0, 3), 0);
+        Due.same("z likes nothing", jury.likes(0, 0), false);
+    }
+}
