@@ -12,6 +12,7 @@ public final class LanguageTest {
         ranges();
         order();
         stays();
+        oneAfterAnother();
         Due.end();
     }
 
@@ -189,6 +190,9 @@ public final class LanguageTest {
         // The ( behind the min is the wrong one, not the min.
         wrongBan("1 < " + times("min(1,", 9) + "1" + times(")", 9), 1, 4 + 8 * 6 + 3);
         rightBan("not [not [-(-(1)) + min(-1, max(2, 3)) < 2]]");
+        rightBan("1 < " + times("max(", 8) + "1" + times(",1)", 8));
+        wrongBan("1 < " + times("max(", 8) + "-1" + times(",1)", 8), 1, 4 + 8 * 4);
+        wrongBan("1 < " + times("max(1,", 8) + "-1" + times(")", 8), 1, 4 + 8 * 6);
         rightBan("not [not [-(-(1)) + min(-1, max(2, -(3))) < 2]]");
         wrongBan("not [not [-(-(1)) + min(-1, max(2, -(-3))) < 2]]", 1, 37);
         wrongBan("not [not [1 < 2 and -(-(-(2))) < 2]]", 1, 24);
@@ -304,8 +308,9 @@ public final class LanguageTest {
     }
 
     private static void stays() {
-        BudgetJury jury = Due.taught(BASE + "budget 40; ban p when year > 9;");
+        BudgetJury jury = Due.taught(BASE + "voter w; budget 41; ban p when year > 9;");
         jury.pass(3);
+        Due.same("the pot", jury.count(6), 3);
         jury.give(0, 7);
         long before = jury.digest();
         Due.same("a wrong list", Due.teach(jury, "ward x cap 1; ward y cap 3; project q cost 1 in x grows 0; voter x likes p;"), 3);
@@ -326,5 +331,33 @@ public final class LanguageTest {
         Due.same("q is open", jury.project(0, 4), -1);
         Due.same("what z paid", jury.voter(0, 3), 0);
         Due.same("z likes nothing", jury.likes(0, 0), false);
+    }
+
+    /** Nothing of a list stays for the ones behind it, however many there are. */
+    private static void oneAfterAnother() {
+        BudgetJury jury = new BudgetJury();
+        String tests = "ban p when 1 = 1" + times(" and 1 = 1", 40) + "; ban p when 1 = 2;";
+        for (int i = 0; i < 20; i++) {
+            Due.same("a long list", Due.teach(jury, BASE + "voter w; budget 7;" + tests), 0);
+            Due.same("p is banned", jury.project(0, 6), 1);
+            Due.same("bans", jury.count(4), 2);
+            Due.same("the budget", jury.count(5), 7);
+            Due.same("fans of p", jury.project(0, 3), 1);
+            Due.same("a wrong list", Due.teach(jury, BASE + "ban p when 1 = 1; ban p when 1"), 1);
+            Due.same("p is still banned", jury.project(0, 6), 1);
+            Due.same("another wrong list", Due.teach(jury, BASE + "budget 9; ban p when 1 = 2; voter w likes q;"), 3);
+            Due.same("p is still banned", jury.project(0, 6), 1);
+            jury.pass(1);
+            Due.same("the pot", jury.count(6), 1);
+            Due.same("a short list", Due.teach(jury, "ward a cap 1; project p cost 5 in a grows 0; voter v; ban p when 1 = 2;"), 0);
+            Due.same("p is not banned", jury.project(0, 6), 0);
+            Due.same("bans", jury.count(4), 1);
+            Due.same("the budget", jury.count(5), 100);
+            Due.same("the pot", jury.count(6), 0);
+            Due.same("fans of p", jury.project(0, 3), 0);
+            jury.pass(1);
+            Due.same("an empty list", Due.teach(jury, ""), 0);
+            Due.same("bans", jury.count(4), 0);
+        }
     }
 }

@@ -37,6 +37,8 @@ public final class PromisesTest {
         promise22();
         promise23();
         promise24();
+        whatWouldBeLater();
+        fullSize();
         Due.end();
     }
 
@@ -616,6 +618,7 @@ public final class PromisesTest {
         // Year 0: purses 10, 10; q (share 8) and r (share 8) are bought ahead of p (share 10).
         long before = jury.digest();
         Due.same("spare(1)", jury.spare(1), 0);
+        Due.same("r is not left out behind spare", jury.until(2), 1);
         Due.same("nothing is changed", jury.digest(), before);
         // So 2 without p; without q, r takes 8, and p lacks 8 of its 20, so 1.
         jury.approve(0, 1, false);
@@ -663,6 +666,28 @@ public final class PromisesTest {
         return d;
     }
 
+    /** Of fullSize() in the year 6. */
+    private static long fullDigest() {
+        long d = digestOf(6, 4, 12, 12, 12, 156, 0, 12 * 78 - 78, 12, 12, 78, 0);
+        int[] wards = {0, 0, 0, 0, 12, 0, 0, 0, 3, 0, 0, 0, 2, 12, 12, 78};
+        for (int x : wards) {
+            d = d * 31 + x;
+        }
+        for (int i = 0; i < 12; i++) {
+            int[] project = {i + 1, 3, 0, 1, i / 2, 1, 0, 77 - i, i + 1};
+            for (int x : project) {
+                d = d * 31 + x;
+            }
+        }
+        for (int i = 0; i < 12; i++) {
+            int[] voter = {77 - i, 1, 1, i + 1};
+            for (int x : voter) {
+                d = d * 31 + x;
+            }
+        }
+        return d * 31 - 1;
+    }
+
     private static void promise24() {
         Due.same("digest of a new jury", new BudgetJury().digest(), digestOf(0, 0, 0, 0, 0, 100, 0, 0, 0, 0, 0, 0, -1));
         BudgetJury jury = Due.taught(PAIR);
@@ -674,5 +699,80 @@ public final class PromisesTest {
             12, 0, 10, 2, -1, 0, 0, 9, -1, 7, 0, 0, 2, 1, 1, 0, 5, -1,
             6, 1, 0, 0, 3, 2, 1, 3, 2, 1, 1, 4,
             0));
+    }
+
+    /** What would be begins with all as it is, whatever was asked ahead of it. */
+    private static void whatWouldBeLater() {
+        BudgetJury jury = Due.taught("ward a cap 9; project p cost 5 in a grows 0; project q cost 7 in a grows 50; voter v likes p q; voter w; budget 10;"
+            + "ban q when year < 12;");
+        jury.pass(3);
+        Due.same("p is bought", jury.project(0, 5), 1);
+        jury.setBudget(6);
+        Due.same("bought behind a year", jury.foresee(1, 9), 1);
+        Due.same("paid behind a year", jury.foresee(1, 10), 5);
+        Due.same("purses behind a year", jury.foresee(1, 7), 31);
+        jury.pass(8);
+        // The year is 11; q is free in the year 12.
+        Due.same("until(1)", jury.until(1), -1);
+        jury.open(0);
+        jury.approve(0, 1, false);
+        jury.approve(0, 0, false);
+        Due.same("spare(1)", jury.spare(1), 0);
+        Due.same("next", jury.next(), -1);
+        jury.approve(0, 0, true);
+        Due.same("spare(1)", jury.spare(1), 1);
+        Due.same("next behind spare", jury.next(), 0);
+        Due.same("until(0) behind spare", jury.until(0), 1);
+        Due.same("spare(2)", jury.spare(2), 1);
+        Due.same("advise(1, 1)", jury.advise(1, 1), 0);
+        Due.same("advise(1, 1) again", jury.advise(1, 1), 0);
+        Due.same("w likes nothing", jury.voter(1, 1), 0);
+        BudgetJury year = Due.taught("ward a cap 1; project p cost 5 in a grows 0; budget 5; ban p when not year = 12;");
+        year.pass(10);
+        Due.same("until(0) from the year 10", year.until(0), 3);
+        Due.same("foresee(2, 8)", year.foresee(2, 8), 0);
+        Due.same("foresee(3, 8)", year.foresee(3, 8), 1);
+    }
+
+    /** 4 wards, 12 projects, voters and bans: the last ones count as all others. */
+    private static void fullSize() {
+        StringBuilder list = new StringBuilder("ward a cap 0; ward b cap 12; ward c cap 3; ward d cap 2;");
+        for (int i = 0; i < 12; i++) {
+            list.append("project p").append(i).append(" cost ").append(i + 1).append(" in d grows 0;");
+        }
+        for (int i = 0; i < 12; i++) {
+            list.append("voter v").append(i).append(" likes p").append(i).append(';');
+        }
+        for (int i = 0; i < 12; i++) {
+            list.append("ban p").append(i).append(" when year < ").append(i / 2).append(';');
+        }
+        String all = list + "budget 156;";
+        BudgetJury jury = Due.taught(all);
+        counts("of a full list", jury, 0, 4, 12, 12, 12, 156);
+        Due.same("until(11)", jury.until(11), 6);
+        for (int year = 0; year < 6; year++) {
+            Due.same("next in the year " + year, jury.next(), 2 * year);
+            Due.same("banned in the year " + year, jury.project(11, 6), year < 5 ? 1 : 0);
+            Due.same("built in the year " + year, jury.pass(1), 2);
+        }
+        for (int i = 0; i < 12; i++) {
+            Due.same("the year of " + i, jury.project(i, 4), i / 2);
+            Due.same("the purse of " + i, jury.voter(i, 0), 6 * 13 - i - 1);
+        }
+        Due.same("purses behind 60 years", jury.foresee(60, 7), 12 * 66 * 13 - 78);
+        Due.same("until(11) of the built one", jury.until(11), 0);
+        Due.same("what 12 projects cost", jury.ward(3, 3), 78);
+        Due.same("mean", jury.mean(), 1.0);
+        // A digest asks for all that is told, up to the last project and voter.
+        Due.same("digest", jury.digest(), fullDigest());
+        Due.same("teach anew", Due.teach(jury, all.replace("d cap 2", "d cap 12").replace("year <", "year > 1 -")), 0);
+        Due.same("the purse of the last one", jury.voter(11, 0), 0);
+        Due.same("what the last one paid", jury.voter(11, 3), 0);
+        Due.same("the last project", jury.project(11, 4), -1);
+        BudgetJury once = Due.taught(all.replace("d cap 2", "d cap 12").replace("year <", "year <= 0 - 1 -"));
+        Due.same("12 in a year", once.pass(1), 12);
+        BudgetJury pot = Due.taught(all.replace("d cap 2", "d cap 12").replace("year <", "year <= 0 - 1 -").replaceAll("voter v[0-9]* likes p[0-9]*;", ""));
+        Due.same("12 in a year from the pot", pot.pass(1), 12);
+        Due.same("the pot", pot.count(6), 156 - 78);
     }
 }
