@@ -27,6 +27,13 @@ final class Due {
         }
     }
 
+    static void same(String call, String got, String want) {
+        looked++;
+        if (!got.equals(want)) {
+            tell(call + " answered " + got + ", due is " + want);
+        }
+    }
+
     static void thrown(String call, Class<?> want, Runnable run) {
         looked++;
         Class<?> got = null;
@@ -78,6 +85,26 @@ final class Due {
     static int teach(BudgetJury jury, String text) {
         write(jury, text);
         return jury.teach();
+    }
+
+    /** What teach and errorAt answer to a list, and that the tape is empty behind it. */
+    static void error(String list, int error, int at) {
+        BudgetJury jury = new BudgetJury();
+        same("teach of " + list, teach(jury, list), error);
+        same("errorAt of " + list, jury.errorAt(), at);
+        same("the tape behind " + list, jury.count(11), 0);
+    }
+
+    static void right(String list) {
+        error(list, 0, -1);
+    }
+
+    static String times(String text, int n) {
+        StringBuilder all = new StringBuilder();
+        for (int i = 0; i < n; i++) {
+            all.append(text);
+        }
+        return all.toString();
     }
 
     static BudgetJury taught(String text) {

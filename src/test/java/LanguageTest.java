@@ -16,32 +16,13 @@ public final class LanguageTest {
         Due.end();
     }
 
-    private static void wrong(String list, int error, int at) {
-        BudgetJury jury = new BudgetJury();
-        Due.same("teach of " + list, Due.teach(jury, list), error);
-        Due.same("errorAt of " + list, jury.errorAt(), at);
-        Due.same("the tape behind " + list, jury.count(11), 0);
-    }
-
-    private static void right(String list) {
-        wrong(list, 0, -1);
-    }
-
     /** Behind BASE, at a position counted from there. */
     private static void wrongBan(String test, int error, int at) {
-        wrong(BASE + "ban p when " + test + ";", error, BASE.length() + 11 + at);
+        Due.error(BASE + "ban p when " + test + ";", error, BASE.length() + 11 + at);
     }
 
     private static void rightBan(String test) {
-        right(BASE + "ban p when " + test + ";");
-    }
-
-    private static String times(String text, int n) {
-        StringBuilder all = new StringBuilder();
-        for (int i = 0; i < n; i++) {
-            all.append(text);
-        }
-        return all.toString();
+        Due.right(BASE + "ban p when " + test + ";");
     }
 
     private static void feedAndTrim() {
@@ -75,31 +56,31 @@ public final class LanguageTest {
     }
 
     private static void tokens() {
-        right("");
-        right(" \n ");
-        right("\n ward\na\ncap\n3\n;\n");
-        right("ward a cap 1;ward b cap 2;");
+        Due.right("");
+        Due.right(" \n ");
+        Due.right("\n ward\na\ncap\n3\n;\n");
+        Due.right("ward a cap 1;ward b cap 2;");
         // A number ends where a letter begins; nothing has to stand between them.
-        right("ward a cap 1;project p cost 5in a grows 0;");
-        right("ward a cap 000012;");
-        wrong("ward a cap 0000012;", 1, 11);
-        wrong("ward a cap 1234567;", 1, 11);
-        right("ward abcdefghij cap 1;");
-        right("ward a234567890 cap 1;");
-        wrong("ward abcdefghijk cap 1;", 1, 5);
-        wrong("ward a cap 1;abcdefghijkl", 1, 13);
-        wrong("wardx a cap 1;", 1, 0);
-        wrong("warda cap 1;", 1, 0);
-        wrong("ward a cap1;", 1, 7);
-        wrong("ward A cap 1;", 1, 5);
-        wrong("ward a\tcap 1;", 1, 6);
-        wrong("ward a\rcap 1;", 1, 6);
-        wrong("ward a_ cap 1;", 1, 6);
-        wrong("ward a\u00e4 cap 1;", 1, 6);
-        wrong("ward a cap 1; \u00ff", 1, 14);
-        wrong("ward a cap 1; \u0000", 1, 14);
-        wrong("ward 1a cap 1;", 1, 5);
-        wrong("ward a cap -1;", 1, 11);
+        Due.right("ward a cap 1;project p cost 5in a grows 0;");
+        Due.right("ward a cap 000012;");
+        Due.error("ward a cap 0000012;", 1, 11);
+        Due.error("ward a cap 1234567;", 1, 11);
+        Due.right("ward abcdefghij cap 1;");
+        Due.right("ward a234567890 cap 1;");
+        Due.error("ward abcdefghijk cap 1;", 1, 5);
+        Due.error("ward a cap 1;abcdefghijkl", 1, 13);
+        Due.error("wardx a cap 1;", 1, 0);
+        Due.error("warda cap 1;", 1, 0);
+        Due.error("ward a cap1;", 1, 7);
+        Due.error("ward A cap 1;", 1, 5);
+        Due.error("ward a\tcap 1;", 1, 6);
+        Due.error("ward a\rcap 1;", 1, 6);
+        Due.error("ward a_ cap 1;", 1, 6);
+        Due.error("ward a\u00e4 cap 1;", 1, 6);
+        Due.error("ward a cap 1; \u00ff", 1, 14);
+        Due.error("ward a cap 1; \u0000", 1, 14);
+        Due.error("ward 1a cap 1;", 1, 5);
+        Due.error("ward a cap -1;", 1, 11);
         for (String sign : new String[] {"<", ">", "=", "<=", ">="}) {
             rightBan("1" + sign + "2");
             rightBan("1 " + sign + " - 2");
@@ -110,37 +91,37 @@ public final class LanguageTest {
         wrongBan("1 == 2", 1, 3);
         wrongBan("1 <> 2", 1, 3);
         // Two names that are to be told apart by their length alone.
-        right("ward a cap 1; ward a0 cap 1; ward a00 cap 1; ward aa cap 1;");
-        right("ward wards cap 1; ward caps cap 1; ward i cap 1; ward inn cap 1;");
+        Due.right("ward a cap 1; ward a0 cap 1; ward a00 cap 1; ward aa cap 1;");
+        Due.right("ward wards cap 1; ward caps cap 1; ward i cap 1; ward inn cap 1;");
     }
 
     private static void grammar() {
-        wrong("ward", 1, 4);
-        wrong("ward ", 1, 5);
-        wrong("ward a cap 1", 1, 12);
-        wrong("ward a cap 1 \n", 1, 14);
-        wrong("ward a cap 1;;", 1, 13);
-        wrong(";", 1, 0);
-        wrong("ward a cap b;", 1, 11);
-        wrong("ward a 1;", 1, 7);
-        wrong("cap a ward 1;", 1, 0);
+        Due.error("ward", 1, 4);
+        Due.error("ward ", 1, 5);
+        Due.error("ward a cap 1", 1, 12);
+        Due.error("ward a cap 1 \n", 1, 14);
+        Due.error("ward a cap 1;;", 1, 13);
+        Due.error(";", 1, 0);
+        Due.error("ward a cap b;", 1, 11);
+        Due.error("ward a 1;", 1, 7);
+        Due.error("cap a ward 1;", 1, 0);
         for (String keyword : ("ward cap project cost in grows voter likes budget ban when year pot purse fans built "
             + "pleased not and or min max").split(" ")) {
-            wrong("ward " + keyword + " cap 1;", 1, 5);
-            wrong("voter " + keyword + ";", 1, 6);
+            Due.error("ward " + keyword + " cap 1;", 1, 5);
+            Due.error("voter " + keyword + ";", 1, 6);
         }
-        wrong("ward a cap 1; project p cost 5;", 1, 30);
-        wrong("ward a cap 1; project p in a cost 5 grows 1;", 1, 24);
-        wrong("ward a cap 1; project p cost 5 in a;", 1, 35);
-        right("voter v;");
-        wrong("voter v likes;", 1, 13);
-        wrong("voter v likes 1;", 1, 14);
-        wrong(BASE + "voter w likes p 1;", 1, BASE.length() + 16);
-        wrong(BASE + "voter w likes p, p;", 1, BASE.length() + 15);
-        wrong("budget;", 1, 6);
-        right("budget 1; budget 2;");
-        wrong(BASE + "ban p;", 1, BASE.length() + 5);
-        wrong(BASE + "ban when 1 < 2;", 1, BASE.length() + 4);
+        Due.error("ward a cap 1; project p cost 5;", 1, 30);
+        Due.error("ward a cap 1; project p in a cost 5 grows 1;", 1, 24);
+        Due.error("ward a cap 1; project p cost 5 in a;", 1, 35);
+        Due.right("voter v;");
+        Due.error("voter v likes;", 1, 13);
+        Due.error("voter v likes 1;", 1, 14);
+        Due.error(BASE + "voter w likes p 1;", 1, BASE.length() + 16);
+        Due.error(BASE + "voter w likes p, p;", 1, BASE.length() + 15);
+        Due.error("budget;", 1, 6);
+        Due.right("budget 1; budget 2;");
+        Due.error(BASE + "ban p;", 1, BASE.length() + 5);
+        Due.error(BASE + "ban when 1 < 2;", 1, BASE.length() + 4);
         rightBan("built p and not built p or likes v p");
         rightBan("[built p or built p] and [built p]");
         rightBan("not [built p and built p]");
@@ -178,67 +159,67 @@ public final class LanguageTest {
     }
 
     private static void depth() {
-        rightBan(times("not ", 8) + "built p");
-        wrongBan(times("not ", 9) + "built p", 1, 32);
-        rightBan(times("[", 8) + "built p" + times("]", 8));
-        wrongBan(times("[", 9) + "built p" + times("]", 9), 1, 8);
-        rightBan(times("(", 8) + "1" + times(")", 8) + " < 2");
-        wrongBan(times("(", 9) + "1" + times(")", 9) + " < 2", 1, 8);
-        rightBan(times("-", 8) + "1 < 2");
-        wrongBan(times("-", 9) + "1 < 2", 1, 8);
-        rightBan("1 < " + times("min(1,", 8) + "1" + times(")", 8));
+        rightBan(Due.times("not ", 8) + "built p");
+        wrongBan(Due.times("not ", 9) + "built p", 1, 32);
+        rightBan(Due.times("[", 8) + "built p" + Due.times("]", 8));
+        wrongBan(Due.times("[", 9) + "built p" + Due.times("]", 9), 1, 8);
+        rightBan(Due.times("(", 8) + "1" + Due.times(")", 8) + " < 2");
+        wrongBan(Due.times("(", 9) + "1" + Due.times(")", 9) + " < 2", 1, 8);
+        rightBan(Due.times("-", 8) + "1 < 2");
+        wrongBan(Due.times("-", 9) + "1 < 2", 1, 8);
+        rightBan("1 < " + Due.times("min(1,", 8) + "1" + Due.times(")", 8));
         // The ( behind the min is the wrong one, not the min.
-        wrongBan("1 < " + times("min(1,", 9) + "1" + times(")", 9), 1, 4 + 8 * 6 + 3);
+        wrongBan("1 < " + Due.times("min(1,", 9) + "1" + Due.times(")", 9), 1, 4 + 8 * 6 + 3);
         rightBan("not [not [-(-(1)) + min(-1, max(2, 3)) < 2]]");
-        rightBan("1 < " + times("max(", 8) + "1" + times(",1)", 8));
-        wrongBan("1 < " + times("max(", 8) + "-1" + times(",1)", 8), 1, 4 + 8 * 4);
-        wrongBan("1 < " + times("max(1,", 8) + "-1" + times(")", 8), 1, 4 + 8 * 6);
+        rightBan("1 < " + Due.times("max(", 8) + "1" + Due.times(",1)", 8));
+        wrongBan("1 < " + Due.times("max(", 8) + "-1" + Due.times(",1)", 8), 1, 4 + 8 * 4);
+        wrongBan("1 < " + Due.times("max(1,", 8) + "-1" + Due.times(")", 8), 1, 4 + 8 * 6);
         rightBan("not [not [-(-(1)) + min(-1, max(2, -(3))) < 2]]");
         wrongBan("not [not [-(-(1)) + min(-1, max(2, -(-3))) < 2]]", 1, 37);
         wrongBan("not [not [1 < 2 and -(-(-(2))) < 2]]", 1, 24);
         // Behind what was turned, and behind a closing sign, the depth is as before.
-        rightBan(times("-", 8) + "1 - " + times("-", 8) + "1 * " + times("-", 8) + "1 < " + times("(", 8) + "1" + times(")", 8));
-        rightBan(times("not ", 8) + "built p and " + times("not ", 8) + "built p or " + times("[", 8) + "built p" + times("]", 8));
-        wrongBan(times("not ", 8) + "-1 < 2", 1, 32);
-        rightBan(times("not ", 8) + "1 - 1 < 2");
-        wrongBan(times("not ", 7) + "(-1) < 2", 1, 29);
+        rightBan(Due.times("-", 8) + "1 - " + Due.times("-", 8) + "1 * " + Due.times("-", 8) + "1 < " + Due.times("(", 8) + "1" + Due.times(")", 8));
+        rightBan(Due.times("not ", 8) + "built p and " + Due.times("not ", 8) + "built p or " + Due.times("[", 8) + "built p" + Due.times("]", 8));
+        wrongBan(Due.times("not ", 8) + "-1 < 2", 1, 32);
+        rightBan(Due.times("not ", 8) + "1 - 1 < 2");
+        wrongBan(Due.times("not ", 7) + "(-1) < 2", 1, 29);
         // Too deep is error 1, ahead of a name that nobody told.
-        wrong("ban x when " + times("[", 9), 1, 19);
+        Due.error("ban x when " + Due.times("[", 9), 1, 19);
     }
 
     private static void limits() {
         // Two lines of 5 tokens and 130 of 3 are 400.
-        String full = "ward a cap 1;ward b cap 1;" + times("budget 1;", 130);
-        right(full);
-        right(full + " \n ");
-        wrong(full + " budget 1;", 1, full.length() + 1);
-        wrong(full + " ;", 1, full.length() + 1);
-        wrong(full + " ?", 1, full.length() + 1);
-        wrong(times("budget 1;", 133) + " budget", 1, 133 * 9 + 7);
-        wrong(times("budget 1;", 133) + " budget 7", 1, 133 * 9 + 8);
-        wrong(times("budget 1;", 133) + " budget 7 8", 1, 133 * 9 + 8);
-        right(BASE + "ban p when 1" + times("+1", 187) + "<2;");
-        wrongBan("1" + times("+1", 188) + "<2", 1, 378);
-        wrongBan("1" + times("+1", 250) + "<2", 1, 378);
+        String full = "ward a cap 1;ward b cap 1;" + Due.times("budget 1;", 130);
+        Due.right(full);
+        Due.right(full + " \n ");
+        Due.error(full + " budget 1;", 1, full.length() + 1);
+        Due.error(full + " ;", 1, full.length() + 1);
+        Due.error(full + " ?", 1, full.length() + 1);
+        Due.error(Due.times("budget 1;", 133) + " budget", 1, 133 * 9 + 7);
+        Due.error(Due.times("budget 1;", 133) + " budget 7", 1, 133 * 9 + 8);
+        Due.error(Due.times("budget 1;", 133) + " budget 7 8", 1, 133 * 9 + 8);
+        Due.right(BASE + "ban p when 1" + Due.times("+1", 187) + "<2;");
+        wrongBan("1" + Due.times("+1", 188) + "<2", 1, 378);
+        wrongBan("1" + Due.times("+1", 250) + "<2", 1, 378);
         // It is told ahead of any other error but error 1.
-        wrong("ward a cap 99;ward a cap 1;" + times("budget 1;", 130) + "budget 1;", 1, 27 + 130 * 9);
+        Due.error("ward a cap 99;ward a cap 1;" + Due.times("budget 1;", 130) + "budget 1;", 1, 27 + 130 * 9);
     }
 
     private static void names() {
-        wrong("ward a cap 1; ward a cap 2;", 2, 19);
-        wrong(BASE + "project p cost 5 in a grows 0;", 2, BASE.length() + 8);
-        wrong(BASE + "voter v;", 2, BASE.length() + 6);
+        Due.error("ward a cap 1; ward a cap 2;", 2, 19);
+        Due.error(BASE + "project p cost 5 in a grows 0;", 2, BASE.length() + 8);
+        Due.error(BASE + "voter v;", 2, BASE.length() + 6);
         // The same name for three sorts is right.
-        right("ward a cap 1; project a cost 1 in a grows 0; voter a likes a; ban a when likes a a and purse a < cost a;");
-        wrong("project p cost 5 in a grows 0; ward a cap 1;", 3, 20);
-        wrong(BASE + "project q cost 5 in p grows 0;", 3, BASE.length() + 20);
-        wrong(BASE + "project q cost 5 in v grows 0;", 3, BASE.length() + 20);
-        wrong("voter v likes p; ward a cap 1; project p cost 5 in a grows 0;", 3, 14);
-        wrong(BASE + "voter w likes p q;", 3, BASE.length() + 16);
-        wrong(BASE + "voter w likes v;", 3, BASE.length() + 14);
-        wrong(BASE + "ban q when 1 < 2;", 3, BASE.length() + 4);
-        wrong(BASE + "ban v when 1 < 2;", 3, BASE.length() + 4);
-        wrong("ban a when 1 < 2;", 3, 4);
+        Due.right("ward a cap 1; project a cost 1 in a grows 0; voter a likes a; ban a when likes a a and purse a < cost a;");
+        Due.error("project p cost 5 in a grows 0; ward a cap 1;", 3, 20);
+        Due.error(BASE + "project q cost 5 in p grows 0;", 3, BASE.length() + 20);
+        Due.error(BASE + "project q cost 5 in v grows 0;", 3, BASE.length() + 20);
+        Due.error("voter v likes p; ward a cap 1; project p cost 5 in a grows 0;", 3, 14);
+        Due.error(BASE + "voter w likes p q;", 3, BASE.length() + 16);
+        Due.error(BASE + "voter w likes v;", 3, BASE.length() + 14);
+        Due.error(BASE + "ban q when 1 < 2;", 3, BASE.length() + 4);
+        Due.error(BASE + "ban v when 1 < 2;", 3, BASE.length() + 4);
+        Due.error("ban a when 1 < 2;", 3, 4);
         wrongBan("built v", 3, 6);
         wrongBan("built a", 3, 6);
         wrongBan("likes p p", 3, 6);
@@ -249,10 +230,10 @@ public final class LanguageTest {
         wrongBan("purse p < 1", 3, 6);
         wrongBan("pleased p < 1", 3, 8);
         wrongBan("1 < purse q", 3, 10);
-        right("ward a cap 1; ward b cap 1; ward c cap 1; ward d cap 1;");
-        wrong("ward a cap 1; ward b cap 1; ward c cap 1; ward d cap 1; ward e cap 1;", 4, 61);
+        Due.right("ward a cap 1; ward b cap 1; ward c cap 1; ward d cap 1;");
+        Due.error("ward a cap 1; ward b cap 1; ward c cap 1; ward d cap 1; ward e cap 1;", 4, 61);
         // Of errors at one token the one with the smallest number.
-        wrong("ward a cap 1; ward b cap 1; ward c cap 1; ward d cap 1; ward d cap 1;", 2, 61);
+        Due.error("ward a cap 1; ward b cap 1; ward c cap 1; ward d cap 1; ward d cap 1;", 2, 61);
         StringBuilder list = new StringBuilder("ward a cap 1;");
         StringBuilder voters = new StringBuilder();
         StringBuilder bans = new StringBuilder("ward a cap 1; project p cost 1 in a grows 0;");
@@ -261,50 +242,50 @@ public final class LanguageTest {
             voters.append("voter v").append(i).append(';');
             bans.append("ban p when 1<").append(i).append(';');
         }
-        right(list.toString());
-        wrong(list + "project x cost 1 in a grows 0;", 4, list.length() + 8);
-        wrong(list + "project p0 cost 1 in a grows 0;", 2, list.length() + 8);
-        right(voters.toString());
-        wrong(voters + "voter x;", 4, voters.length() + 6);
-        wrong(voters + "voter v11;", 2, voters.length() + 6);
-        right(bans.toString());
-        wrong(bans + "ban p when 1<2;", 4, bans.length());
+        Due.right(list.toString());
+        Due.error(list + "project x cost 1 in a grows 0;", 4, list.length() + 8);
+        Due.error(list + "project p0 cost 1 in a grows 0;", 2, list.length() + 8);
+        Due.right(voters.toString());
+        Due.error(voters + "voter x;", 4, voters.length() + 6);
+        Due.error(voters + "voter v11;", 2, voters.length() + 6);
+        Due.right(bans.toString());
+        Due.error(bans + "ban p when 1<2;", 4, bans.length());
         // The word ban is ahead of the name behind it.
-        wrong(bans + "ban x when 1<2;", 4, bans.length());
+        Due.error(bans + "ban x when 1<2;", 4, bans.length());
     }
 
     private static void ranges() {
-        right("ward a cap 0; ward b cap 12;");
-        wrong("ward a cap 13;", 5, 11);
-        wrong("ward a cap 999999;", 5, 11);
+        Due.right("ward a cap 0; ward b cap 12;");
+        Due.error("ward a cap 13;", 5, 11);
+        Due.error("ward a cap 999999;", 5, 11);
         String ward = "ward a cap 1;";
-        right(ward + "project p cost 1 in a grows 0; project q cost 999 in a grows 50;");
-        wrong(ward + "project p cost 0 in a grows 0;", 5, 28);
-        wrong(ward + "project p cost 1000 in a grows 0;", 5, 28);
-        wrong(ward + "project p cost 1 in a grows 51;", 5, 41);
-        right("budget 0; budget 9999;");
-        wrong("budget 10000;", 5, 7);
-        wrong("budget 1; budget 10000; budget 2;", 5, 17);
-        wrong(BASE + "voter w likes p p;", 5, BASE.length() + 16);
+        Due.right(ward + "project p cost 1 in a grows 0; project q cost 999 in a grows 50;");
+        Due.error(ward + "project p cost 0 in a grows 0;", 5, 28);
+        Due.error(ward + "project p cost 1000 in a grows 0;", 5, 28);
+        Due.error(ward + "project p cost 1 in a grows 51;", 5, 41);
+        Due.right("budget 0; budget 9999;");
+        Due.error("budget 10000;", 5, 7);
+        Due.error("budget 1; budget 10000; budget 2;", 5, 17);
+        Due.error(BASE + "voter w likes p p;", 5, BASE.length() + 16);
         // The same project in two lines is right.
-        right(BASE + "voter w likes p; voter x likes p;");
+        Due.right(BASE + "voter w likes p; voter x likes p;");
         // Numbers of tests have no range of their own.
         rightBan("999999 < 0");
     }
 
     private static void order() {
         // Error 1 at the end is told ahead of all others.
-        wrong("ward a cap 99; ward a cap 1; ban x when 1 < 2", 1, 45);
+        Due.error("ward a cap 99; ward a cap 1; ban x when 1 < 2", 1, 45);
         // Of the others the leftmost one.
-        wrong("ward a cap 99; ward a cap 1;", 5, 11);
-        wrong("ward a cap 1; ward a cap 99;", 2, 19);
-        wrong("ward a cap 1; project p cost 0 in b grows 99;", 5, 29);
-        wrong("ward a cap 1; project p cost 1 in b grows 99;", 3, 34);
-        wrong(BASE + "voter v likes q;", 2, BASE.length() + 6);
-        wrong(BASE + "voter w likes q p p;", 3, BASE.length() + 14);
-        wrong(BASE + "voter w likes p p q;", 5, BASE.length() + 16);
-        wrong(BASE + "ban p when built x or likes y z;", 3, BASE.length() + 17);
-        wrong(BASE + "ban p when likes y z;", 3, BASE.length() + 17);
+        Due.error("ward a cap 99; ward a cap 1;", 5, 11);
+        Due.error("ward a cap 1; ward a cap 99;", 2, 19);
+        Due.error("ward a cap 1; project p cost 0 in b grows 99;", 5, 29);
+        Due.error("ward a cap 1; project p cost 1 in b grows 99;", 3, 34);
+        Due.error(BASE + "voter v likes q;", 2, BASE.length() + 6);
+        Due.error(BASE + "voter w likes q p p;", 3, BASE.length() + 14);
+        Due.error(BASE + "voter w likes p p q;", 5, BASE.length() + 16);
+        Due.error(BASE + "ban p when built x or likes y z;", 3, BASE.length() + 17);
+        Due.error(BASE + "ban p when likes y z;", 3, BASE.length() + 17);
     }
 
     private static void stays() {
@@ -336,7 +317,7 @@ public final class LanguageTest {
     /** Nothing of a list stays for the ones behind it, however many there are. */
     private static void oneAfterAnother() {
         BudgetJury jury = new BudgetJury();
-        String tests = "ban p when 1 = 1" + times(" and 1 = 1", 40) + "; ban p when 1 = 2;";
+        String tests = "ban p when 1 = 1" + Due.times(" and 1 = 1", 40) + "; ban p when 1 = 2;";
         for (int i = 0; i < 20; i++) {
             Due.same("a long list", Due.teach(jury, BASE + "voter w; budget 7;" + tests), 0);
             Due.same("p is banned", jury.project(0, 6), 1);
